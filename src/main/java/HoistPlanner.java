@@ -140,7 +140,7 @@ public final class HoistPlanner {
         return works.carriers[i];
     }
 
-    /** The second (0), entered (1), done (2), carrier (3) and move (4) of the hoist, drained (5), last stay (6). */
+    /** The second (0), entered (1), done (2), the hoist's carrier (3) and move (4), drained (5), last stay (6). */
     public int state(int what) throws IllegalStateException, IllegalArgumentException {
         requirePlan();
         switch (what) {
@@ -326,7 +326,7 @@ public final class HoistPlanner {
             return number;
         }
 
-        /** 1 if the move that empties a tank comes ahead of the one that fills it: the soak goes over the cycle's end. */
+        /** How often a soak goes over the cycle's end: once if its tank is emptied ahead of being filled. */
         int soakTurns(int tank) {
             return rank[tank] < rank[tank - 1] ? 1 : 0;
         }

@@ -27,7 +27,7 @@ final class Lines {
 
     /**
      * Three tanks: soaks 100, 0 and 50 .. 60, all else as at first. T is 130 with order 312: moves at 0,
-     * 110, 120, 50; a carrier takes 200 seconds.
+     * 110, 120, 50; a carrier takes 190 seconds.
      */
     static HoistPlanner threeTanks() {
         HoistPlanner x = new HoistPlanner();

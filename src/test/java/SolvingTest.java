@@ -4,6 +4,7 @@ public final class SolvingTest {
 
     public static void main(String[] args) {
         promise7LeastOfAllOrders();
+        promise7LastOrder();
         promise7FirstOfEqualOrders();
         promise7NoPlanAtAll();
         promise7LongestCycle();
@@ -23,6 +24,14 @@ public final class SolvingTest {
         HoistPlanner y = Lines.threeTanks();
         CHECK.due("7 three tanks", y.solve(), 130);
         CHECK.due("7 its order", y.plan(0, 4), 312);
+    }
+
+    /** A soak of four moves' time puts each move just ahead of the one that fills its tank. */
+    private static void promise7LastOrder() {
+        HoistPlanner x = Reference.of(5).allSoaks(40, 40).planner();
+        CHECK.due("7 the hoist never waits", x.solve(), 60);
+        CHECK.due("7 the last order of all", x.plan(0, 4), 54321);
+        CHECK.due("7 the first order", x.least(12345), 260);
     }
 
     private static void promise7FirstOfEqualOrders() {
