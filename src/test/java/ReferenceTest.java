@@ -6,6 +6,9 @@ import java.util.Random;
 public final class ReferenceTest {
     private static final Check CHECK = new Check();
     private static final Random RANDOM = new Random(20261115);
+    /** With five tanks a step takes 14 calls, and an object is used for at most 512. */
+    private static final int STEPS = 25;
+    private static final int LAST_STOP = 20;
     private static int solved = 0;
     private static int unsolved = 0;
 
@@ -133,9 +136,9 @@ public final class ReferenceTest {
         List<Integer> entries = new ArrayList<>();
         boolean stopped = false;
         int second = 0;
-        for (int k = 0; k < 60; k++) {
-            if (between(0, 7) == 0 || k == 50) {
-                stopped = k >= 50 || !stopped;
+        for (int k = 0; k < STEPS; k++) {
+            if (between(0, 5) == 0 || k == LAST_STOP) {
+                stopped = k >= LAST_STOP || !stopped;
                 x.stop(stopped);
             }
             int seconds = between(0, 9) == 0 ? between(0, 5000) : between(0, line.cycle / 2);
