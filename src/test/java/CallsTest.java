@@ -5,6 +5,8 @@
 public final class CallsTest {
     private static final Check CHECK = new Check();
     private static final int CALLS = 512;
+    /** With four tanks a piece takes 30 calls. */
+    private static final int PIECES = 14;
 
     public static void main(String[] args) {
         longestRuns();
@@ -13,6 +15,7 @@ public final class CallsTest {
         leastEachTime();
         dataEachTime();
         refusedEachTime();
+        objectsAreApart();
         CHECK.end();
     }
 
@@ -84,5 +87,39 @@ public final class CallsTest {
             CHECK.throwsArgument("run(5001)", () -> x.run(5001));
         }
         CHECK.due("the 512th call", x.run(1), 1);
+    }
+
+    /** What is called on one object is not seen in another one: two used by turns answer as each did alone. */
+    private static void objectsAreApart() {
+        String one = runInPieces(4, Lines.solved(Lines.tightLine(4)), 67);
+        String other = runInPieces(2, Lines.solved(Lines.twoTanks()), 29);
+        HoistPlanner x = Lines.tightLine(4);
+        HoistPlanner y = Lines.twoTanks();
+        x.solve();
+        y.solve();
+        StringBuilder ofX = new StringBuilder();
+        StringBuilder ofY = new StringBuilder();
+        for (int k = 0; k < PIECES; k++) {
+            ofX.append(runPiece(4, x, 67, k));
+            ofY.append(runPiece(2, y, 29, k));
+        }
+        CHECK.dueText("the one", ofX.toString(), one);
+        CHECK.dueText("the other", ofY.toString(), other);
+    }
+
+    private static String runInPieces(int n, HoistPlanner x, int seconds) {
+        StringBuilder text = new StringBuilder();
+        for (int k = 0; k < PIECES; k++) {
+            text.append(runPiece(n, x, seconds, k));
+        }
+        return text.toString();
+    }
+
+    private static String runPiece(int n, HoistPlanner x, int seconds, int k) {
+        if (k == 2 * n) {
+            // Not in the same piece for both, or a stop of the one could pass for that of the other.
+            x.stop(true);
+        }
+        return x.run(seconds) + ": " + Answers.ofPlan(x, n) + Answers.ofLine(x, n);
     }
 }

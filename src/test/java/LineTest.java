@@ -12,6 +12,9 @@ public final class LineTest {
             firstCarrierGoesByThePlan(n);
             moveEndsAheadOfTheNextOne(n);
             eachTankHasItsOwnCarrier(n);
+            noMoveIntoAnother(n);
+            eachCarrierIsInOnePlace(n);
+            fromEmptyUntilDrained(n);
         }
         runOfNoSeconds();
         longestRun();
@@ -25,6 +28,7 @@ public final class LineTest {
         stopTwiceAndBack();
         nothingInTanksOrOnTheHoist();
         secondsOfTheLastOneDone();
+        askingChangesNothing();
         CHECK.end();
     }
 
@@ -280,5 +284,88 @@ public final class LineTest {
         CHECK.due("a later one takes as long", x.state(6), 560);
         x.solve();
         CHECK.due("none again", x.state(6), 0);
+    }
+
+    /** Moves of 1 to 3 seconds, so that an object's 512 calls see several cycles. */
+    private static Reference shortLine(int n) {
+        Reference line = Reference.of(n).allEmpty(1).allSoaks(2, 9);
+        for (int i = 0; i <= n; i++) {
+            line.loaded[i] = 1 + i % 3;
+        }
+        return line;
+    }
+
+    /** "(By the plan a move never begins while another one goes on ..": each second of the first cycles. */
+    private static void noMoveIntoAnother(int n) {
+        Reference line = shortLine(n);
+        HoistPlanner x = Lines.solved(line.planner());
+        int cycle = x.plan(0, 3);
+        int freeAt = 0;
+        int begun = 0;
+        for (int second = 0; second < 200; second++) {
+            boolean begins = x.run(1) == 1;
+            int move = x.state(4);
+            CHECK.due("a move goes on in second " + second, move == NONE ? 0 : 1, begins || second < freeAt ? 1 : 0);
+            if (begins && move != NONE) {
+                CHECK.due("the hoist is free in second " + second, second >= freeAt ? 1 : 0, 1);
+                CHECK.due("move " + move + " has that time", x.plan(move, 1), second % cycle);
+                freeAt = second + line.loaded[move];
+                begun++;
+            }
+        }
+        CHECK.due("several cycles were seen", begun > 4 * (n + 1) ? 1 : 0, 1);
+    }
+
+    /** ".. nor finds a place taken.)": no carrier that entered is lost before it is done, and none is seen twice. */
+    private static void eachCarrierIsInOnePlace(int n) {
+        HoistPlanner x = Lines.solved(shortLine(n).planner());
+        for (int k = 0; k < 40; k++) {
+            x.run(3);
+            int[] seen = new int[x.state(1) + 1];
+            seen[x.state(3)]++;
+            for (int i = 1; i <= n; i++) {
+                seen[x.tank(i)]++;
+            }
+            int done = x.state(2);
+            for (int carrier = 1; carrier < seen.length; carrier++) {
+                CHECK.due("carrier " + carrier + " is in a place", seen[carrier], carrier <= done ? 0 : 1);
+            }
+        }
+        CHECK.due("several are done", x.state(2) > 3 ? 1 : 0, 1);
+    }
+
+    /** ".. with the least cycle, and the line run by them from empty until it is drained." */
+    private static void fromEmptyUntilDrained(int n) {
+        HoistPlanner x = Lines.tightLine(n);
+        int least = NONE;
+        for (int order : Lines.orders(n)) {
+            int cycle = x.least(order);
+            least = cycle != NONE && (least == NONE || cycle < least) ? cycle : least;
+        }
+        CHECK.due("the least cycle", x.solve(), least);
+        CHECK.due("empty at first", x.state(5), 1);
+        int begun = x.run(9 * least + 1);
+        CHECK.due("one carrier each cycle", x.state(1), 10);
+        CHECK.due("not drained", x.state(5), 0);
+        x.stop(true);
+        begun += x.run(5000);
+        CHECK.due("drained", x.state(5), 1);
+        CHECK.due("all are done", x.state(2), 10);
+        CHECK.due("each one by all moves", begun, 10 * (n + 1));
+    }
+
+    /** Promises 6, 8, 9, 12 and 13 tell, and nothing more: an object that is never asked runs alike. */
+    private static void askingChangesNothing() {
+        HoistPlanner asked = Lines.solved(Lines.tightLine(3));
+        HoistPlanner unasked = Lines.solved(Lines.tightLine(3));
+        for (int k = 0; k < 12; k++) {
+            Answers.of(asked, 3);
+            CHECK.due("moves begun", asked.run(30 + k), unasked.run(30 + k));
+        }
+        asked.stop(true);
+        unasked.stop(true);
+        CHECK.dueText("the same answers", Answers.of(asked, 3), Answers.of(unasked, 3));
+        CHECK.due("moves until drained", asked.run(1000), unasked.run(1000));
+        CHECK.dueText("the same end", Answers.ofLine(asked, 3), Answers.ofLine(unasked, 3));
     }
 }
